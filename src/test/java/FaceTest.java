@@ -1,0 +1,124 @@
+import java.io.IOException;
+import java.lang.reflect.Constructor;
+import java.lang.reflect.Field;
+import java.lang.reflect.Method;
+import java.lang.reflect.Modifier;
+import java.nio.file.Files;
+import java.nio.file.Path;
+import java.util.Set;
+import java.util.TreeSet;
+
+/** The public face, and rules of LANGUAGE.md that can be read off the class and its source. */
+public final class FaceTest {
+  private static final Path SOURCE = Path.of("src/main/java/MeridianSeries.java");
+
+  private static final String[] FACE = {
+    "int addRule(int,int,int,int,boolean,int,int)", "int addSeries(int,int)", "int ask(int,int)",
+    "int bits(int,int)", "int bitsWith(int,int,int)", "int blocks(int)", "int buckets(int,boolean)",
+    "long digest()", "int event(int,int)", "int events()", "int firesIn(int)", "int gaps(int,int)",
+    "int goOn(int)", "int inRow(int)", "int items(int)", "int lastAt(int,int)", "int late()",
+    "int now()", "int ofBucket(int,boolean,int,int)", "int over(boolean,int,int,int)",
+    "int point(int,int,int,boolean)", "int put(int,int,int)", "int putRow(int,int,int,int,int,int)",
+    "double ratio()", "int seenBy(int)", "int series()", "int setKeep(int,int)",
+    "int setQuery(int,int,int,int)", "int setSpan(int)", "int setWidths(int,int)", "int size(int,int)",
+    "int stateOf(int)", "int word(int,int,int)", "int wouldRoll(int)"
+  };
+
+  private static final String[] NOT_ALLOWED = {
+    "->", "::", "@", "catch", "finally", "null", "static {", "synchronized", "assert", "while (",
+    "System.", "hashCode", "toString", "equals", "getClass", "Exact(", "import java.io", "protected"
+  };
+
+  private static int wrong = 0;
+
+  public static void main(String[] args) throws IOException {
+    face();
+    nestedClasses();
+    source();
+    System.out.println(wrong == 0 ? "face: as the document has it" : "face: " + wrong + " wrong");
+    if (wrong != 0) {
+      System.exit(1);
+    }
+  }
+
+  private static void need(boolean isGood, String what) {
+    if (!isGood) {
+      wrong++;
+      System.out.println(what);
+    }
+  }
+
+  private static String textOf(Method method) {
+    StringBuilder text = new StringBuilder();
+    for (Class<?> type : method.getParameterTypes()) {
+      text.append(text.length() == 0 ? "" : ",").append(type.getSimpleName());
+    }
+    return method.getReturnType().getSimpleName() + " " + method.getName() + "(" + text + ")";
+  }
+
+  private static void face() {
+    int modifiers = MeridianSeries.class.getModifiers();
+    need(Modifier.isPublic(modifiers) && Modifier.isFinal(modifiers), "the class is not public and final");
+    Set<String> found = new TreeSet<>();
+    Set<String> names = new TreeSet<>();
+    for (Method method : MeridianSeries.class.getDeclaredMethods()) {
+      if (Modifier.isPublic(method.getModifiers())) {
+        found.add(textOf(method));
+        names.add(method.getName());
+      } else {
+        need(Modifier.isPrivate(method.getModifiers()), method + " is not private");
+      }
+    }
+    need(found.equals(new TreeSet<>(Set.of(FACE))), "the face is " + found);
+    for (Method method : MeridianSeries.class.getDeclaredMethods()) {
+      boolean isPrivate = Modifier.isPrivate(method.getModifiers());
+      need(!isPrivate || !names.contains(method.getName()), method + " bears a public one's name");
+    }
+    for (Field field : MeridianSeries.class.getDeclaredFields()) {
+      need(Modifier.isPrivate(field.getModifiers()), field + " is not private");
+      checkStatic(field);
+    }
+    Constructor<?>[] constructors = MeridianSeries.class.getDeclaredConstructors();
+    need(constructors.length == 1 && constructors[0].getParameterCount() == 0, "constructors");
+  }
+
+  private static void checkStatic(Field field) {
+    if (Modifier.isStatic(field.getModifiers())) {
+      boolean isPlain = field.getType().isPrimitive() || field.getType() == String.class;
+      need(Modifier.isFinal(field.getModifiers()) && isPlain, field + " is static state");
+    }
+  }
+
+  private static void nestedClasses() {
+    Class<?>[] nested = MeridianSeries.class.getDeclaredClasses();
+    need(nested.length <= 12, "too many classes");
+    for (Class<?> one : nested) {
+      need(Modifier.isStatic(one.getModifiers()), one + " is not static");
+      need(!Modifier.isPublic(one.getModifiers()), one + " is public");
+      for (Field field : one.getDeclaredFields()) {
+        checkStatic(field);
+      }
+      for (Method method : one.getDeclaredMethods()) {
+        need(method.getParameterCount() <= 7, method + " has too many parameters");
+      }
+      for (Constructor<?> constructor : one.getDeclaredConstructors()) {
+        need(constructor.getParameterCount() <= 7, constructor + " has too many parameters");
+      }
+    }
+  }
+
+  private static void source() throws IOException {
+    String text = Files.readString(SOURCE);
+    for (String word : NOT_ALLOWED) {
+      need(!text.contains(word), "the source has " + word);
+    }
+    for (char sign : text.toCharArray()) {
+      need(sign < 128, "the source has the sign " + sign);
+    }
+    for (String line : text.split("\n")) {
+      boolean isAllowed = line.equals("import java.util.ArrayList;") || line.equals("import java.util.Arrays;");
+      need(!line.startsWith("import") || isAllowed, line);
+      need(!line.startsWith("package"), line);
+    }
+  }
+}
