@@ -234,7 +234,8 @@ public final class MeridianSeries {
 
   // ---- windows
 
-  public int ask(int series, int window) throws IndexOutOfBoundsException, IllegalArgumentException {
+  public int ask(int series, int window)
+      throws IndexOutOfBoundsException, IllegalArgumentException {
     Series chain = chainAt(series);
     needArgument(isIn(window, 0, MOST_WINDOW));
     return toldByQuery(chain, window);
@@ -270,7 +271,8 @@ public final class MeridianSeries {
     return found;
   }
 
-  public int lastAt(int series, int time) throws IndexOutOfBoundsException, IllegalArgumentException {
+  public int lastAt(int series, int time)
+      throws IndexOutOfBoundsException, IllegalArgumentException {
     Series chain = chainAt(series);
     needArgument(isIn(time, 0, LAST_TIME));
     int item = chain.firstItemFrom(time + 1) - 1;
@@ -286,10 +288,12 @@ public final class MeridianSeries {
     needArgument(isIn(what, TELL_COUNT, TELL_SPREAD) && isIn(length, 1, 500));
     needArgument(isIn(every, 1, 60) && isIn(limit, -MOST_LIMIT, MOST_LIMIT) && isIn(times, 1, 5));
     int number = store.rules.size();
-    needState(number < MOST_RULES && series < trial.chains.size());
-    Series twin = trial.chains.get(series);
+    needState(number < MOST_RULES);
     store.rules.add(new Rule(chain, what, length, every, isAbove, limit, times));
-    trial.rules.add(new Rule(twin, what, length, every, isAbove, limit, times));
+    if (series < trial.chains.size()) {
+      Series twin = trial.chains.get(series);
+      trial.rules.add(new Rule(twin, what, length, every, isAbove, limit, times));
+    }
     return number;
   }
 
@@ -359,7 +363,11 @@ public final class MeridianSeries {
     d = d * 31 + lateCount;
     d = d * 31 + store.log.total;
     for (int i = 0; i < store.chains.size(); i++) {
-      d = withSeries(d, store.chains.get(i));
+      Series chain = store.chains.get(i);
+      d = withBlocks(d, chain.points);
+      d = withBuckets(d, chain.fine);
+      d = withBuckets(d, chain.coarse);
+      d = withWindows(d, chain);
     }
     for (int i = 0; i < store.rules.size(); i++) {
       Rule rule = store.rules.get(i);
@@ -371,16 +379,6 @@ public final class MeridianSeries {
       for (int what = 0; what < EVENT_NUMBERS; what++) {
         d = d * 31 + store.log.number(back, what);
       }
-    }
-    return d;
-  }
-
-  private long withSeries(long start, Series chain) {
-    long d = withBlocks(start, chain.points);
-    d = withBuckets(d, chain.fine);
-    d = withBuckets(d, chain.coarse);
-    for (int window = 0; window <= 5; window++) {
-      d = d * 31 + toldByQuery(chain, window);
     }
     return d;
   }
@@ -407,6 +405,14 @@ public final class MeridianSeries {
       for (int what = START; what <= LAST; what++) {
         d = d * 31 + row.number(bucket, what);
       }
+    }
+    return d;
+  }
+
+  private long withWindows(long start, Series chain) {
+    long d = start;
+    for (int window = 0; window <= 5; window++) {
+      d = d * 31 + toldByQuery(chain, window);
     }
     return d;
   }
@@ -814,7 +820,8 @@ public final class MeridianSeries {
       for (int i = 0; i < dueBlocks; i++) {
         rollUpFirstBlock(settings);
       }
-      int dueFine = settings.longKeep == 0 ? 0 : fineEndingBy(now - settings.longKeep, settings.width);
+      int longKeep = settings.longKeep;
+      int dueFine = longKeep == 0 ? 0 : fineEndingBy(now - longKeep, settings.width);
       for (int i = 0; i < dueFine; i++) {
         rollUpFirstFine(settings);
       }
@@ -868,7 +875,7 @@ public final class MeridianSeries {
       return points.number(behindCoarse - fine.amount, what);
     }
 
-    /** The first item whose time is not below that; halving works, for no time is below one ahead. */
+    /** The first item whose time is not below that; halving works, for no time falls. */
     int firstItemFrom(int time) {
       int low = 0;
       int high = itemCount();
@@ -1067,7 +1074,7 @@ public final class MeridianSeries {
       return length;
     }
 
-    /** Packs the open block as it would be with one more point; answers how many bits that takes. */
+    /** Packs the open block as it would be with one more point; answers how many bits it has. */
     int packOpenWith(Points points, int time, int value) {
       int place = points.placeOf(time);
       boolean isTaken = points.isTakenAt(place, time);

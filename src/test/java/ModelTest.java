@@ -90,7 +90,26 @@ public final class ModelTest {
         call("setWidths", numbers.from(2, 100), numbers.from(2, 20));
         call("setKeep", numbers.from(1, 300), numbers.oneOf(0, 50, 500));
       }
+      if (mood == 4) {
+        beginFarOn();
+      }
       call("goOn", numbers.from(20, 100));
+    }
+
+    /** Far on, times can be so far apart that all codes of the blocks come up. */
+    private void beginFarOn() {
+      for (int i = 0; i < 40; i++) {
+        call("goOn", 100);
+      }
+      for (int series = 0; series < model.chains.size(); series++) {
+        for (int i = 0, time = 0; i < 12; i++) {
+          time += numbers.oneOf(1, 2, 20, 60, 200, 300);
+          call("put", series, time, numbers.oneOf(0, 1, -1, 15, 500, -500, 700, 100000, -100000));
+        }
+        for (int word = 0; word < 24; word++) {
+          call("word", series, 0, word);
+        }
+      }
     }
 
     private void step() {

@@ -199,6 +199,8 @@ public final class PromiseTest {
     x.putRow(0, 20, 1, 1, 0, 7);
     is("6 window 0 begins at 20", x.ask(0, 0), 5);
     is("6 window 1 at 25", x.ask(0, 1), 2);
+    is("6 step before that", x.setQuery(0, 1, 0, 0), 5);
+    is("6 the shortest step", x.ask(0, 26), 1);
   }
 
   private static void put() {
@@ -225,6 +227,7 @@ public final class PromiseTest {
     is("7 late at the greatest sealed time", x.put(0, 50, 6), -1);
     is("7 late below it", x.put(0, 0, 6), -1);
     is("7 late is counted", x.late(), 2);
+    is("7 LONG KEEP is 0 at first", keptFine(), 1);
     is("7 nothing of it is stored", x.items(0), 4);
     x.goOn(1);
     is("7 above the greatest sealed time", x.put(0, 51, 6), 1);
@@ -235,10 +238,19 @@ public final class PromiseTest {
     is("7 not late", x.put(0, 51, 7), 1);
   }
 
+  /** Fine buckets of a store where setKeep was not called; the first block went by the ninth one. */
+  private static int keptFine() {
+    MeridianSeries x = storeAt(100);
+    x.setSpan(2);
+    x.putRow(0, 0, 0, 1, 0, 18);
+    x.goOn(100);
+    return x.buckets(0, false);
+  }
+
   private static void putRow() {
     MeridianSeries x = storeAt(2000);
     refuses(x, "8 series", INDEX, () -> x.putRow(1, 0, 0, 0, 0, 0));
-    refuses(x, "8 count 0", ARGUMENT, () -> x.putRow(0, 0, 0, 1, 0, 0));
+    refuses(x, "8 count 0", ARGUMENT, () -> x.putRow(0, 5, 0, 1, 0, 0));
     refuses(x, "8 count 31", ARGUMENT, () -> x.putRow(0, 0, 0, 1, 0, 31));
     refuses(x, "8 every 0", ARGUMENT, () -> x.putRow(0, 0, 0, 0, 0, 2));
     refuses(x, "8 every 1001", ARGUMENT, () -> x.putRow(0, 0, 0, 1001, 0, 2));
@@ -395,7 +407,48 @@ public final class PromiseTest {
     refuses(x, "17 an open one has none", INDEX, () -> x.word(0, 1, 0));
     refuses(x, "17 block 2", INDEX, () -> x.word(0, 2, 0));
     refuses(x, "17 block -1", INDEX, () -> x.word(0, -1, 0));
+    wordsOfAllCodes();
     longestBlock();
+  }
+
+  private static String bitsOf(int number, int width) {
+    StringBuilder text = new StringBuilder();
+    for (int i = width - 1; i >= 0; i--) {
+      text.append((number >> i) % 2 == 0 ? '0' : '1');
+    }
+    return text.toString();
+  }
+
+  /** The words of a block that has each code, for times and for values, up and down. */
+  private static void wordsOfAllCodes() {
+    MeridianSeries x = storeAt(5000);
+    x.setSpan(9);
+    int[] times = {7, 17, 27, 127, 1127, 1128, 1158, 1159, 1360};
+    int[] values = {-3, -3, 0, -200, 99000, 0, 500, 490, 490};
+    for (int i = 0; i < times.length; i++) {
+      x.put(0, times[i], values[i]);
+    }
+    String bits = bitsOf(9, 6) + bitsOf(7, 20) + bitsOf(1048573, 21)
+        + "10" + bitsOf(10 + 31, 6) + "0"
+        + "0" + "10" + bitsOf(3 + 15, 5)
+        + "110" + bitsOf(90 + 255, 9) + "110" + bitsOf(-200 + 511, 10)
+        + "111" + bitsOf(900 + 1048576, 21) + "111" + bitsOf(99200 + 262144, 19)
+        + "111" + bitsOf(-999 + 1048576, 21) + "111" + bitsOf(-99000 + 262144, 19)
+        + "10" + bitsOf(29 + 31, 6) + "110" + bitsOf(500 + 511, 10)
+        + "10" + bitsOf(-29 + 31, 6) + "10" + bitsOf(-10 + 15, 5)
+        + "110" + bitsOf(200 + 255, 9) + "0";
+    is("17 bits of all codes", x.bits(0, 0), bits.length());
+    String padded = bits + "0".repeat((16 - bits.length() % 16) % 16);
+    for (int i = 0; i < padded.length() / 16; i++) {
+      is("17 word " + i + " of all codes", x.word(0, 0, i), Integer.parseInt(padded.substring(i * 16, i * 16 + 16), 2));
+    }
+    is("17 nothing of it is in the next block's word", firstWordOfSecondBlock(x), (2 << 10) + 1);
+  }
+
+  private static int firstWordOfSecondBlock(MeridianSeries x) {
+    x.setSpan(2);
+    x.putRow(0, 2000, 0, 1, 0, 2);
+    return x.word(0, 1, 0);
   }
 
   private static void longestBlock() {
@@ -447,6 +500,23 @@ public final class PromiseTest {
     is("3 first", y.ofBucket(0, false, 1, 5), -4);
     is("3 last", y.ofBucket(0, false, 1, 6), 100);
     openBlocksStay();
+    blocksOfManySizes();
+  }
+
+  private static void blocksOfManySizes() {
+    MeridianSeries x = storeAt(100);
+    for (int size = 2; size < 6; size++) {
+      x.setSpan(size);
+      x.putRow(0, size * 10, size, 1, 1, size);
+    }
+    x.setKeep(70, 0);
+    x.goOn(1);
+    for (int block = 0; block < 3; block++) {
+      is("14 size, the first block gone", x.size(0, block), block + 3);
+      is("15 time, the first block gone", x.point(0, block, 2, false), block * 10 + 32);
+      is("15 value, the first block gone", x.point(0, block, 2, true), block + 5);
+    }
+    is("14 the open block", x.size(0, 3), 0);
   }
 
   private static void openBlocksStay() {
@@ -478,6 +548,18 @@ public final class PromiseTest {
     is("3 start 40 + 10 is not above 110 - 60", y.buckets(0, false), 1);
     is("3 another coarse bucket", y.ofBucket(0, true, 1, 0), 40);
     is("3 LONG KEEP 0 is for ever", foreverFine().buckets(0, false), 4);
+    is("3 FOLD is 6 at first", startOfCoarse(119), 60);
+    is("3 FOLD is 6 at first", startOfCoarse(121), 120);
+  }
+
+  private static int startOfCoarse(int time) {
+    MeridianSeries x = storeAt(200);
+    x.setSpan(2);
+    x.put(0, time - 1, 5);
+    x.put(0, time, 6);
+    x.setKeep(1, 1);
+    x.goOn(1);
+    return x.ofBucket(0, true, 0, 0);
   }
 
   private static MeridianSeries foreverFine() {
@@ -694,6 +776,7 @@ public final class PromiseTest {
       is("23 second label, how " + how, x.over(true, 5, how, 1), dueOfOther[how]);
       is("23 no such label, how " + how, x.over(true, 9, how, 1), dueOfNone[how]);
       is("23 gaps alone, how " + how, x.over(true, 6, how, 2), dueOfNone[how]);
+      is("23 label 0, how " + how, x.over(false, 0, how, 1), dueOfNone[how]);
     }
     x.setQuery(0, 10, 0, 0);
     is("23 a count of 0 is not NOTHING", x.over(false, 3, 3, 1), 3);
@@ -745,6 +828,7 @@ public final class PromiseTest {
     is("25 a bucket by its start", x.lastAt(0, 26), 20);
     is("25 a bucket by its start", x.lastAt(0, 46), 30);
     is("25 below it", x.lastAt(0, 19), -1);
+    is("25 time 0", x.lastAt(0, 0), -1);
   }
 
   private static void addRule() {
@@ -934,6 +1018,41 @@ public final class PromiseTest {
     is("33 without that: 18 is out at 49, 19 at 50", y.firesIn(100), 10);
     is("33 nothing is rolled up", y.buckets(0, false), 0);
     secondFiring();
+    firingOverBuckets();
+    firingFromStirred();
+  }
+
+  /** What is tried sees the fine and coarse buckets of the store, and those of no trial before. */
+  private static void firingOverBuckets() {
+    MeridianSeries x = storeAt(200);
+    x.setSpan(2);
+    x.setWidths(10, 2);
+    x.putRow(0, 140, 1, 1, 2, 2);
+    x.putRow(0, 185, 20, 1, 7, 2);
+    x.setKeep(1, 0);
+    x.goOn(1);
+    x.setKeep(1, 40);
+    x.goOn(1);
+    is("33 a coarse bucket", x.buckets(0, true), 1);
+    is("33 a fine bucket", x.buckets(0, false), 1);
+    x.addRule(0, 7, 100, 10, true, 25, 1);
+    is("33 27 - 1 in both", x.firesIn(100), 8);
+    x.addRule(0, 4, 100, 1, true, 1, 1);
+    x.addRule(0, 5, 70, 1, false, 28, 1);
+    is("33 27 is the LAST", x.firesIn(100), 1);
+    is("33 once more", x.firesIn(100), 1);
+    is("9 it comes so", x.goOn(1), 1);
+    is("31 by rule 2", x.event(0, 1), 2);
+    is("33 rule 0 still", x.firesIn(100), 7);
+  }
+
+  private static void firingFromStirred() {
+    MeridianSeries x = storeAt(10);
+    x.put(0, 10, 5);
+    x.addRule(0, 1, 90, 10, true, 0, 4);
+    x.goOn(25);
+    is("28 two in a row", x.inRow(0), 2);
+    is("33 two more", x.firesIn(100), 15);
   }
 
   /** Becoming calm is not becoming firing; firing again is. */
@@ -1038,7 +1157,18 @@ public final class PromiseTest {
         102, 0, 2);
     isLong("35 with a coarse bucket", x.digest(), dueWithCoarse);
     isLong("35 once more", x.digest(), dueWithCoarse);
+    stirredRule();
     latestFive();
+  }
+
+  private static void stirredRule() {
+    MeridianSeries x = storeAt(9);
+    x.put(0, 9, 4);
+    x.addRule(0, 1, 10, 1, true, 0, 5);
+    x.goOn(3);
+    long none = NOTHING;
+    long due = sumUp(12, 1, 0, 0, 1, 1, 0, 9, 4, 0, 0, 4, none, none, none, none, none, 1, 3, 4);
+    isLong("35 a rule with 3 times in a row", x.digest(), due);
   }
 
   private static void latestFive() {
