@@ -1,17 +1,5 @@
 /** Each promise of the document by examples: ordinary inputs, the edges, wrong inputs. */
-public final class PromiseTest {
-  private static final int NOTHING = -1000000;
-  private static final String INDEX = "IndexOutOfBoundsException";
-  private static final String ARGUMENT = "IllegalArgumentException";
-  private static final String STATE = "IllegalStateException";
-
-  private static int wrong = 0;
-  private static int checked = 0;
-
-  private interface Call {
-    long answer();
-  }
-
+public final class PromiseTest extends Check {
   public static void main(String[] args) {
     newObject();
     addSeries();
@@ -48,57 +36,7 @@ public final class PromiseTest {
     wouldRoll();
     endOfTime();
     digest();
-    System.out.println("promises: " + checked + " answers looked at, " + wrong + " wrong");
-    if (wrong != 0) {
-      System.exit(1);
-    }
-  }
-
-  private static void is(String what, double got, double due) {
-    checked++;
-    if (got != due) {
-      wrong++;
-      System.out.println(what + ": answered " + got + ", due is " + due);
-    }
-  }
-
-  private static void isLong(String what, long got, long due) {
-    checked++;
-    if (got != due) {
-      wrong++;
-      System.out.println(what + ": answered " + got + ", due is " + due);
-    }
-  }
-
-  /** The call must throw that, and change nothing. */
-  private static void refuses(MeridianSeries x, String what, String exception, Call call) {
-    checked++;
-    long before = x.digest();
-    String got = "an answer";
-    try {
-      call.answer();
-    } catch (RuntimeException e) {
-      got = e.getClass().getSimpleName();
-    }
-    if (!got.equals(exception)) {
-      wrong++;
-      System.out.println(what + ": gave " + got + ", due is " + exception);
-    }
-    isLong(what + ": digest behind it", x.digest(), before);
-  }
-
-  /** A store with one series, and NOW that far on. */
-  private static MeridianSeries storeAt(int now) {
-    MeridianSeries x = new MeridianSeries();
-    x.addSeries(1, 2);
-    goOnTo(x, now);
-    return x;
-  }
-
-  private static void goOnTo(MeridianSeries x, int now) {
-    while (x.now() < now) {
-      x.goOn(Math.min(100, now - x.now()));
-    }
+    end("promises");
   }
 
   private static void newObject() {
@@ -108,8 +46,8 @@ public final class PromiseTest {
     is("1 late", x.late(), 0);
     is("1 events", x.events(), 0);
     is("1 ratio", x.ratio(), 0);
-    refuses(x, "1 blocks", INDEX, () -> x.blocks(0));
-    refuses(x, "1 stateOf", INDEX, () -> x.stateOf(0));
+    refuses(x, "1 blocks", INDEX, z -> z.blocks(0));
+    refuses(x, "1 stateOf", INDEX, z -> z.stateOf(0));
     MeridianSeries y = storeAt(0);
     is("1 blocks of a new series", y.blocks(0), 1);
     is("1 fine buckets", y.buckets(0, false), 0);
@@ -121,22 +59,22 @@ public final class PromiseTest {
 
   private static void addSeries() {
     MeridianSeries x = new MeridianSeries();
-    refuses(x, "2 one -1", ARGUMENT, () -> x.addSeries(-1, 0));
-    refuses(x, "2 one 10", ARGUMENT, () -> x.addSeries(10, 0));
-    refuses(x, "2 other -1", ARGUMENT, () -> x.addSeries(0, -1));
-    refuses(x, "2 other 10", ARGUMENT, () -> x.addSeries(0, 10));
+    refuses(x, "2 one -1", ARGUMENT, z -> z.addSeries(-1, 0));
+    refuses(x, "2 one 10", ARGUMENT, z -> z.addSeries(10, 0));
+    refuses(x, "2 other -1", ARGUMENT, z -> z.addSeries(0, -1));
+    refuses(x, "2 other 10", ARGUMENT, z -> z.addSeries(0, 10));
     for (int i = 0; i < 6; i++) {
       is("2 number", x.addSeries(i == 0 ? 0 : 9, i == 0 ? 9 : 0), i);
       is("2 series", x.series(), i + 1);
     }
-    refuses(x, "2 a seventh", STATE, () -> x.addSeries(0, 0));
-    refuses(x, "2 the argument is named first", ARGUMENT, () -> x.addSeries(0, 10));
+    refuses(x, "2 a seventh", STATE, z -> z.addSeries(0, 0));
+    refuses(x, "2 the argument is named first", ARGUMENT, z -> z.addSeries(0, 10));
   }
 
   private static void setSpan() {
     MeridianSeries x = storeAt(100);
-    refuses(x, "3 span 1", ARGUMENT, () -> x.setSpan(1));
-    refuses(x, "3 span 17", ARGUMENT, () -> x.setSpan(17));
+    refuses(x, "3 span 1", ARGUMENT, z -> z.setSpan(1));
+    refuses(x, "3 span 17", ARGUMENT, z -> z.setSpan(17));
     is("3 the span before", x.setSpan(16), 8);
     is("3 15 points", x.putRow(0, 0, 0, 2, 1, 15), 15);
     is("3 are open", x.size(0, 0), 15);
@@ -153,10 +91,10 @@ public final class PromiseTest {
 
   private static void setWidths() {
     MeridianSeries x = storeAt(100);
-    refuses(x, "4 width 1", ARGUMENT, () -> x.setWidths(1, 6));
-    refuses(x, "4 width 101", ARGUMENT, () -> x.setWidths(101, 6));
-    refuses(x, "4 fold 1", ARGUMENT, () -> x.setWidths(10, 1));
-    refuses(x, "4 fold 21", ARGUMENT, () -> x.setWidths(10, 21));
+    refuses(x, "4 width 1", ARGUMENT, z -> z.setWidths(1, 6));
+    refuses(x, "4 width 101", ARGUMENT, z -> z.setWidths(101, 6));
+    refuses(x, "4 fold 1", ARGUMENT, z -> z.setWidths(10, 1));
+    refuses(x, "4 fold 21", ARGUMENT, z -> z.setWidths(10, 21));
     is("4 the width before", x.setWidths(100, 20), 10);
     is("4 the width before that", x.setWidths(2, 2), 100);
     x.setSpan(2);
@@ -166,34 +104,34 @@ public final class PromiseTest {
     x.goOn(1);
     is("4 a bucket", x.buckets(0, false), 1);
     is("4 its start is a multiple of the width", x.ofBucket(0, false, 0, 0), 0);
-    refuses(x, "4 with a bucket", STATE, () -> x.setWidths(5, 3));
-    refuses(x, "4 the argument is named first", ARGUMENT, () -> x.setWidths(1, 3));
+    refuses(x, "4 with a bucket", STATE, z -> z.setWidths(5, 3));
+    refuses(x, "4 the argument is named first", ARGUMENT, z -> z.setWidths(1, 3));
     x.setKeep(1, 1);
     x.goOn(1);
     is("4 no fine bucket", x.buckets(0, false), 0);
-    refuses(x, "4 with a coarse bucket", STATE, () -> x.setWidths(5, 3));
+    refuses(x, "4 with a coarse bucket", STATE, z -> z.setWidths(5, 3));
   }
 
   private static void setKeep() {
     MeridianSeries x = storeAt(10);
-    refuses(x, "5 keep -1", ARGUMENT, () -> x.setKeep(-1, 0));
-    refuses(x, "5 keep 10001", ARGUMENT, () -> x.setKeep(10001, 0));
-    refuses(x, "5 longKeep -1", ARGUMENT, () -> x.setKeep(0, -1));
-    refuses(x, "5 longKeep 10001", ARGUMENT, () -> x.setKeep(0, 10001));
+    refuses(x, "5 keep -1", ARGUMENT, z -> z.setKeep(-1, 0));
+    refuses(x, "5 keep 10001", ARGUMENT, z -> z.setKeep(10001, 0));
+    refuses(x, "5 longKeep -1", ARGUMENT, z -> z.setKeep(0, -1));
+    refuses(x, "5 longKeep 10001", ARGUMENT, z -> z.setKeep(0, 10001));
     is("5 keep before", x.setKeep(10000, 10000), 0);
     is("5 keep before that", x.setKeep(0, 7), 10000);
   }
 
   private static void setQuery() {
     MeridianSeries x = storeAt(100);
-    refuses(x, "6 from -1", ARGUMENT, () -> x.setQuery(-1, 1, 0, 0));
-    refuses(x, "6 from 100000", ARGUMENT, () -> x.setQuery(100000, 1, 0, 0));
-    refuses(x, "6 step 0", ARGUMENT, () -> x.setQuery(0, 0, 0, 0));
-    refuses(x, "6 step 10001", ARGUMENT, () -> x.setQuery(0, 10001, 0, 0));
-    refuses(x, "6 what -1", ARGUMENT, () -> x.setQuery(0, 1, -1, 0));
-    refuses(x, "6 what 8", ARGUMENT, () -> x.setQuery(0, 1, 8, 0));
-    refuses(x, "6 fill -1", ARGUMENT, () -> x.setQuery(0, 1, 0, -1));
-    refuses(x, "6 fill 4", ARGUMENT, () -> x.setQuery(0, 1, 0, 4));
+    refuses(x, "6 from -1", ARGUMENT, z -> z.setQuery(-1, 1, 0, 0));
+    refuses(x, "6 from 100000", ARGUMENT, z -> z.setQuery(100000, 1, 0, 0));
+    refuses(x, "6 step 0", ARGUMENT, z -> z.setQuery(0, 0, 0, 0));
+    refuses(x, "6 step 10001", ARGUMENT, z -> z.setQuery(0, 10001, 0, 0));
+    refuses(x, "6 what -1", ARGUMENT, z -> z.setQuery(0, 1, -1, 0));
+    refuses(x, "6 what 8", ARGUMENT, z -> z.setQuery(0, 1, 8, 0));
+    refuses(x, "6 fill -1", ARGUMENT, z -> z.setQuery(0, 1, 0, -1));
+    refuses(x, "6 fill 4", ARGUMENT, z -> z.setQuery(0, 1, 0, 4));
     is("6 step before", x.setQuery(99999, 10000, 7, 3), 10);
     is("6 step before that", x.setQuery(20, 5, 0, 0), 10000);
     x.putRow(0, 20, 1, 1, 0, 7);
@@ -205,13 +143,13 @@ public final class PromiseTest {
 
   private static void put() {
     MeridianSeries x = storeAt(50);
-    refuses(x, "7 series -1", INDEX, () -> x.put(-1, 0, 0));
-    refuses(x, "7 series 1", INDEX, () -> x.put(1, 0, 0));
-    refuses(x, "7 the series is named first", INDEX, () -> x.put(1, -1, 0));
-    refuses(x, "7 time -1", ARGUMENT, () -> x.put(0, -1, 0));
-    refuses(x, "7 time above NOW", ARGUMENT, () -> x.put(0, 51, 0));
-    refuses(x, "7 value too small", ARGUMENT, () -> x.put(0, 0, -100001));
-    refuses(x, "7 value too great", ARGUMENT, () -> x.put(0, 0, 100001));
+    refuses(x, "7 series -1", INDEX, z -> z.put(-1, 0, 0));
+    refuses(x, "7 series 1", INDEX, z -> z.put(1, 0, 0));
+    refuses(x, "7 the series is named first", INDEX, z -> z.put(1, -1, 0));
+    refuses(x, "7 time -1", ARGUMENT, z -> z.put(0, -1, 0));
+    refuses(x, "7 time above NOW", ARGUMENT, z -> z.put(0, 51, 0));
+    refuses(x, "7 value too small", ARGUMENT, z -> z.put(0, 0, -100001));
+    refuses(x, "7 value too great", ARGUMENT, z -> z.put(0, 0, 100001));
     x.setSpan(4);
     is("7 at NOW", x.put(0, 50, 100000), 1);
     is("7 ahead of it", x.put(0, 10, -100000), 2);
@@ -249,17 +187,17 @@ public final class PromiseTest {
 
   private static void putRow() {
     MeridianSeries x = storeAt(2000);
-    refuses(x, "8 series", INDEX, () -> x.putRow(1, 0, 0, 0, 0, 0));
-    refuses(x, "8 count 0", ARGUMENT, () -> x.putRow(0, 5, 0, 1, 0, 0));
-    refuses(x, "8 count 31", ARGUMENT, () -> x.putRow(0, 0, 0, 1, 0, 31));
-    refuses(x, "8 every 0", ARGUMENT, () -> x.putRow(0, 0, 0, 0, 0, 2));
-    refuses(x, "8 every 1001", ARGUMENT, () -> x.putRow(0, 0, 0, 1001, 0, 2));
-    refuses(x, "8 time -1", ARGUMENT, () -> x.putRow(0, -1, 0, 1, 0, 3));
-    refuses(x, "8 last time above NOW", ARGUMENT, () -> x.putRow(0, 1001, 0, 1000, 0, 2));
-    refuses(x, "8 first time far off", ARGUMENT, () -> x.putRow(0, Integer.MAX_VALUE, 0, 1, 0, 30));
-    refuses(x, "8 first value", ARGUMENT, () -> x.putRow(0, 0, -100001, 1, 1, 2));
-    refuses(x, "8 last value", ARGUMENT, () -> x.putRow(0, 0, 99999, 1, 1, 3));
-    refuses(x, "8 values that wrap around", ARGUMENT, () -> x.putRow(0, 0, 0, 1, 1 << 30, 5));
+    refuses(x, "8 series", INDEX, z -> z.putRow(1, 0, 0, 0, 0, 0));
+    refuses(x, "8 count 0", ARGUMENT, z -> z.putRow(0, 5, 0, 1, 0, 0));
+    refuses(x, "8 count 31", ARGUMENT, z -> z.putRow(0, 0, 0, 1, 0, 31));
+    refuses(x, "8 every 0", ARGUMENT, z -> z.putRow(0, 0, 0, 0, 0, 2));
+    refuses(x, "8 every 1001", ARGUMENT, z -> z.putRow(0, 0, 0, 1001, 0, 2));
+    refuses(x, "8 time -1", ARGUMENT, z -> z.putRow(0, -1, 0, 1, 0, 3));
+    refuses(x, "8 last time above NOW", ARGUMENT, z -> z.putRow(0, 1001, 0, 1000, 0, 2));
+    refuses(x, "8 first time far off", ARGUMENT, z -> z.putRow(0, Integer.MAX_VALUE, 0, 1, 0, 30));
+    refuses(x, "8 first value", ARGUMENT, z -> z.putRow(0, 0, -100001, 1, 1, 2));
+    refuses(x, "8 last value", ARGUMENT, z -> z.putRow(0, 0, 99999, 1, 1, 3));
+    refuses(x, "8 values that wrap around", ARGUMENT, z -> z.putRow(0, 0, 0, 1, 1 << 30, 5));
     is("8 one point, more is free", x.putRow(0, 0, 7, 1000, Integer.MAX_VALUE, 1), 1);
     is("8 two points up to NOW", x.putRow(0, 1000, -100000, 1000, 200000, 2), 2);
     is("8 time of the last", x.point(0, 0, 2, false), 2000);
@@ -282,9 +220,9 @@ public final class PromiseTest {
 
   private static void goOn() {
     MeridianSeries x = storeAt(0);
-    refuses(x, "9 by 0", ARGUMENT, () -> x.goOn(0));
-    refuses(x, "9 by -1", ARGUMENT, () -> x.goOn(-1));
-    refuses(x, "9 by 101", ARGUMENT, () -> x.goOn(101));
+    refuses(x, "9 by 0", ARGUMENT, z -> z.goOn(0));
+    refuses(x, "9 by -1", ARGUMENT, z -> z.goOn(-1));
+    refuses(x, "9 by 101", ARGUMENT, z -> z.goOn(101));
     is("9 no events", x.goOn(100), 0);
     is("9 now", x.now(), 100);
     x.put(0, 100, 5);
@@ -317,25 +255,25 @@ public final class PromiseTest {
     x.setSpan(3);
     x.putRow(0, 10, -5, 5, 10, 7);
     for (int bad : new int[] {-1, 1, Integer.MIN_VALUE, Integer.MAX_VALUE}) {
-      refuses(x, "13 series", INDEX, () -> x.blocks(bad));
-      refuses(x, "14 series", INDEX, () -> x.size(bad, 0));
-      refuses(x, "15 series", INDEX, () -> x.point(bad, 0, 0, true));
-      refuses(x, "16 series", INDEX, () -> x.bits(bad, 0));
-      refuses(x, "17 series", INDEX, () -> x.word(bad, 0, 0));
-      refuses(x, "18 series", INDEX, () -> x.buckets(bad, true));
-      refuses(x, "20 series", INDEX, () -> x.items(bad));
+      refuses(x, "13 series", INDEX, z -> z.blocks(bad));
+      refuses(x, "14 series", INDEX, z -> z.size(bad, 0));
+      refuses(x, "15 series", INDEX, z -> z.point(bad, 0, 0, true));
+      refuses(x, "16 series", INDEX, z -> z.bits(bad, 0));
+      refuses(x, "17 series", INDEX, z -> z.word(bad, 0, 0));
+      refuses(x, "18 series", INDEX, z -> z.buckets(bad, true));
+      refuses(x, "20 series", INDEX, z -> z.items(bad));
     }
     is("13 blocks", x.blocks(0), 3);
-    refuses(x, "14 block -1", INDEX, () -> x.size(0, -1));
-    refuses(x, "14 block 3", INDEX, () -> x.size(0, 3));
+    refuses(x, "14 block -1", INDEX, z -> z.size(0, -1));
+    refuses(x, "14 block 3", INDEX, z -> z.size(0, 3));
     is("14 size of a sealed one", x.size(0, 0), 3);
     is("14 size of a sealed one", x.size(0, 1), 3);
     is("14 size of the open one", x.size(0, 2), 1);
-    refuses(x, "15 block -1", INDEX, () -> x.point(0, -1, 0, true));
-    refuses(x, "15 block 3", INDEX, () -> x.point(0, 3, 0, true));
-    refuses(x, "15 point -1", INDEX, () -> x.point(0, 1, -1, true));
-    refuses(x, "15 point 3", INDEX, () -> x.point(0, 1, 3, true));
-    refuses(x, "15 point 1 of the open one", INDEX, () -> x.point(0, 2, 1, false));
+    refuses(x, "15 block -1", INDEX, z -> z.point(0, -1, 0, true));
+    refuses(x, "15 block 3", INDEX, z -> z.point(0, 3, 0, true));
+    refuses(x, "15 point -1", INDEX, z -> z.point(0, 1, -1, true));
+    refuses(x, "15 point 3", INDEX, z -> z.point(0, 1, 3, true));
+    refuses(x, "15 point 1 of the open one", INDEX, z -> z.point(0, 2, 1, false));
     is("15 time", x.point(0, 1, 0, false), 25);
     is("15 value", x.point(0, 1, 0, true), 25);
     is("15 time of the open one", x.point(0, 2, 0, false), 40);
@@ -343,7 +281,7 @@ public final class PromiseTest {
     is("20 items", x.items(0), 7);
     MeridianSeries y = storeAt(5);
     is("14 an open one without points", y.size(0, 0), 0);
-    refuses(y, "15 no point there", INDEX, () -> y.point(0, 0, 0, true));
+    refuses(y, "15 no point there", INDEX, z -> z.point(0, 0, 0, true));
   }
 
   private static void bits() {
@@ -352,8 +290,8 @@ public final class PromiseTest {
     is("16 open", x.bits(0, 0), 0);
     x.putRow(0, 10, 5, 1, 0, 2);
     x.put(0, 12, 0);
-    refuses(x, "16 block -1", INDEX, () -> x.bits(0, -1));
-    refuses(x, "16 block 2", INDEX, () -> x.bits(0, 2));
+    refuses(x, "16 block -1", INDEX, z -> z.bits(0, -1));
+    refuses(x, "16 block 2", INDEX, z -> z.bits(0, 2));
     is("16 6 + 20 + 21, E 1 in 2 + 6, F 0 in 1", x.bits(0, 0), 56);
     is("16 open", x.bits(0, 1), 0);
     MeridianSeries y = storeAt(100);
@@ -402,11 +340,11 @@ public final class PromiseTest {
     for (int i = 0; i < 4; i++) {
       is("17 word", x.word(0, 0, i), Integer.parseInt(padded.substring(i * 16, i * 16 + 16), 2));
     }
-    refuses(x, "17 word -1", INDEX, () -> x.word(0, 0, -1));
-    refuses(x, "17 word 4", INDEX, () -> x.word(0, 0, 4));
-    refuses(x, "17 an open one has none", INDEX, () -> x.word(0, 1, 0));
-    refuses(x, "17 block 2", INDEX, () -> x.word(0, 2, 0));
-    refuses(x, "17 block -1", INDEX, () -> x.word(0, -1, 0));
+    refuses(x, "17 word -1", INDEX, z -> z.word(0, 0, -1));
+    refuses(x, "17 word 4", INDEX, z -> z.word(0, 0, 4));
+    refuses(x, "17 an open one has none", INDEX, z -> z.word(0, 1, 0));
+    refuses(x, "17 block 2", INDEX, z -> z.word(0, 2, 0));
+    refuses(x, "17 block -1", INDEX, z -> z.word(0, -1, 0));
     wordsOfAllCodes();
     longestBlock();
   }
@@ -461,7 +399,7 @@ public final class PromiseTest {
     }
     is("16 a block of the most bits", x.bits(0, 0), 47 + 15 * 46);
     is("17 its last word", x.word(0, 0, 46), (112144 & 1) << 15);
-    refuses(x, "17 behind its last word", INDEX, () -> x.word(0, 0, 47));
+    refuses(x, "17 behind its last word", INDEX, z -> z.word(0, 0, 47));
     long sum = 0;
     for (int i = 0; i < 47; i++) {
       sum += x.word(0, 0, i);
@@ -613,14 +551,14 @@ public final class PromiseTest {
 
   private static void ofBucket() {
     MeridianSeries x = foreverFine();
-    refuses(x, "19 series -1", INDEX, () -> x.ofBucket(-1, false, 0, 0));
-    refuses(x, "19 series 1", INDEX, () -> x.ofBucket(1, false, 0, 0));
-    refuses(x, "19 bucket -1", INDEX, () -> x.ofBucket(0, false, -1, 0));
-    refuses(x, "19 bucket 4", INDEX, () -> x.ofBucket(0, false, 4, 0));
-    refuses(x, "19 no coarse one", INDEX, () -> x.ofBucket(0, true, 0, 0));
-    refuses(x, "19 the bucket is named first", INDEX, () -> x.ofBucket(0, false, 4, 7));
-    refuses(x, "19 what -1", ARGUMENT, () -> x.ofBucket(0, false, 0, -1));
-    refuses(x, "19 what 7", ARGUMENT, () -> x.ofBucket(0, false, 0, 7));
+    refuses(x, "19 series -1", INDEX, z -> z.ofBucket(-1, false, 0, 0));
+    refuses(x, "19 series 1", INDEX, z -> z.ofBucket(1, false, 0, 0));
+    refuses(x, "19 bucket -1", INDEX, z -> z.ofBucket(0, false, -1, 0));
+    refuses(x, "19 bucket 4", INDEX, z -> z.ofBucket(0, false, 4, 0));
+    refuses(x, "19 no coarse one", INDEX, z -> z.ofBucket(0, true, 0, 0));
+    refuses(x, "19 the bucket is named first", INDEX, z -> z.ofBucket(0, false, 4, 7));
+    refuses(x, "19 what -1", ARGUMENT, z -> z.ofBucket(0, false, 0, -1));
+    refuses(x, "19 what 7", ARGUMENT, z -> z.ofBucket(0, false, 0, 7));
     is("19 start of the last", x.ofBucket(0, false, 3, 0), 50);
     is("19 its value", x.ofBucket(0, false, 3, 6), 10);
   }
@@ -733,11 +671,11 @@ public final class PromiseTest {
 
   private static void ask() {
     MeridianSeries x = storeAt(100);
-    refuses(x, "22 series -1", INDEX, () -> x.ask(-1, 0));
-    refuses(x, "22 series 1", INDEX, () -> x.ask(1, 0));
-    refuses(x, "22 the series is named first", INDEX, () -> x.ask(1, -1));
-    refuses(x, "22 window -1", ARGUMENT, () -> x.ask(0, -1));
-    refuses(x, "22 window 1001", ARGUMENT, () -> x.ask(0, 1001));
+    refuses(x, "22 series -1", INDEX, z -> z.ask(-1, 0));
+    refuses(x, "22 series 1", INDEX, z -> z.ask(1, 0));
+    refuses(x, "22 the series is named first", INDEX, z -> z.ask(1, -1));
+    refuses(x, "22 window -1", ARGUMENT, z -> z.ask(0, -1));
+    refuses(x, "22 window 1001", ARGUMENT, z -> z.ask(0, 1001));
     x.setQuery(0, 10000, 1, 2);
     x.put(0, 5, 6);
     is("22 window 1000", x.ask(0, 1000), 6);
@@ -758,12 +696,12 @@ public final class PromiseTest {
     x.addSeries(3, 5);
     x.addSeries(4, 3);
     x.goOn(100);
-    refuses(x, "23 label -1", ARGUMENT, () -> x.over(false, -1, 0, 0));
-    refuses(x, "23 label 10", ARGUMENT, () -> x.over(false, 10, 0, 0));
-    refuses(x, "23 how -1", ARGUMENT, () -> x.over(false, 0, -1, 0));
-    refuses(x, "23 how 4", ARGUMENT, () -> x.over(false, 0, 4, 0));
-    refuses(x, "23 window -1", ARGUMENT, () -> x.over(false, 0, 0, -1));
-    refuses(x, "23 window 1001", ARGUMENT, () -> x.over(false, 0, 0, 1001));
+    refuses(x, "23 label -1", ARGUMENT, z -> z.over(false, -1, 0, 0));
+    refuses(x, "23 label 10", ARGUMENT, z -> z.over(false, 10, 0, 0));
+    refuses(x, "23 how -1", ARGUMENT, z -> z.over(false, 0, -1, 0));
+    refuses(x, "23 how 4", ARGUMENT, z -> z.over(false, 0, 4, 0));
+    refuses(x, "23 window -1", ARGUMENT, z -> z.over(false, 0, 0, -1));
+    refuses(x, "23 window 1001", ARGUMENT, z -> z.over(false, 0, 0, 1001));
     x.put(0, 12, 40);
     x.put(1, 13, -7);
     x.put(2, 25, 9);
@@ -796,10 +734,10 @@ public final class PromiseTest {
 
   private static void gaps() {
     MeridianSeries x = storeAt(200);
-    refuses(x, "24 series", INDEX, () -> x.gaps(1, 1));
-    refuses(x, "24 the series is named first", INDEX, () -> x.gaps(-1, 0));
-    refuses(x, "24 windows 0", ARGUMENT, () -> x.gaps(0, 0));
-    refuses(x, "24 windows 101", ARGUMENT, () -> x.gaps(0, 101));
+    refuses(x, "24 series", INDEX, z -> z.gaps(1, 1));
+    refuses(x, "24 the series is named first", INDEX, z -> z.gaps(-1, 0));
+    refuses(x, "24 windows 0", ARGUMENT, z -> z.gaps(0, 0));
+    refuses(x, "24 windows 101", ARGUMENT, z -> z.gaps(0, 101));
     is("24 all", x.gaps(0, 100), 100);
     x.putRow(0, 10, 1, 10, 1, 5);
     x.put(0, 59, 1);
@@ -812,10 +750,10 @@ public final class PromiseTest {
 
   private static void lastAt() {
     MeridianSeries x = storeAt(200);
-    refuses(x, "25 series", INDEX, () -> x.lastAt(1, 0));
-    refuses(x, "25 the series is named first", INDEX, () -> x.lastAt(1, -1));
-    refuses(x, "25 time -1", ARGUMENT, () -> x.lastAt(0, -1));
-    refuses(x, "25 time 100000", ARGUMENT, () -> x.lastAt(0, 100000));
+    refuses(x, "25 series", INDEX, z -> z.lastAt(1, 0));
+    refuses(x, "25 the series is named first", INDEX, z -> z.lastAt(1, -1));
+    refuses(x, "25 time -1", ARGUMENT, z -> z.lastAt(0, -1));
+    refuses(x, "25 time 100000", ARGUMENT, z -> z.lastAt(0, 100000));
     is("25 without an item", x.lastAt(0, 99999), -1);
     x.setSpan(2);
     x.putRow(0, 27, 1, 10, 1, 3);
@@ -833,18 +771,18 @@ public final class PromiseTest {
 
   private static void addRule() {
     MeridianSeries x = storeAt(10);
-    refuses(x, "26 series 1", INDEX, () -> x.addRule(1, 0, 1, 1, true, 0, 1));
-    refuses(x, "26 the series is named first", INDEX, () -> x.addRule(-1, 9, 0, 0, true, 0, 0));
-    refuses(x, "26 what -1", ARGUMENT, () -> x.addRule(0, -1, 1, 1, true, 0, 1));
-    refuses(x, "26 what 8", ARGUMENT, () -> x.addRule(0, 8, 1, 1, true, 0, 1));
-    refuses(x, "26 length 0", ARGUMENT, () -> x.addRule(0, 0, 0, 1, true, 0, 1));
-    refuses(x, "26 length 501", ARGUMENT, () -> x.addRule(0, 0, 501, 1, true, 0, 1));
-    refuses(x, "26 every 0", ARGUMENT, () -> x.addRule(0, 0, 1, 0, true, 0, 1));
-    refuses(x, "26 every 61", ARGUMENT, () -> x.addRule(0, 0, 1, 61, true, 0, 1));
-    refuses(x, "26 limit too small", ARGUMENT, () -> x.addRule(0, 0, 1, 1, true, -1000001, 1));
-    refuses(x, "26 limit too great", ARGUMENT, () -> x.addRule(0, 0, 1, 1, true, 1000001, 1));
-    refuses(x, "26 times 0", ARGUMENT, () -> x.addRule(0, 0, 1, 1, true, 0, 0));
-    refuses(x, "26 times 6", ARGUMENT, () -> x.addRule(0, 0, 1, 1, true, 0, 6));
+    refuses(x, "26 series 1", INDEX, z -> z.addRule(1, 0, 1, 1, true, 0, 1));
+    refuses(x, "26 the series is named first", INDEX, z -> z.addRule(-1, 9, 0, 0, true, 0, 0));
+    refuses(x, "26 what -1", ARGUMENT, z -> z.addRule(0, -1, 1, 1, true, 0, 1));
+    refuses(x, "26 what 8", ARGUMENT, z -> z.addRule(0, 8, 1, 1, true, 0, 1));
+    refuses(x, "26 length 0", ARGUMENT, z -> z.addRule(0, 0, 0, 1, true, 0, 1));
+    refuses(x, "26 length 501", ARGUMENT, z -> z.addRule(0, 0, 501, 1, true, 0, 1));
+    refuses(x, "26 every 0", ARGUMENT, z -> z.addRule(0, 0, 1, 0, true, 0, 1));
+    refuses(x, "26 every 61", ARGUMENT, z -> z.addRule(0, 0, 1, 61, true, 0, 1));
+    refuses(x, "26 limit too small", ARGUMENT, z -> z.addRule(0, 0, 1, 1, true, -1000001, 1));
+    refuses(x, "26 limit too great", ARGUMENT, z -> z.addRule(0, 0, 1, 1, true, 1000001, 1));
+    refuses(x, "26 times 0", ARGUMENT, z -> z.addRule(0, 0, 1, 1, true, 0, 0));
+    refuses(x, "26 times 6", ARGUMENT, z -> z.addRule(0, 0, 1, 1, true, 0, 6));
     for (int i = 0; i < 8; i++) {
       boolean isEdge = i % 2 == 0;
       int limit = isEdge ? 1000000 : -1000000;
@@ -852,13 +790,13 @@ public final class PromiseTest {
       is("27 calm", x.stateOf(i), 0);
       is("28 none in a row", x.inRow(i), 0);
     }
-    refuses(x, "26 a ninth", STATE, () -> x.addRule(0, 0, 1, 1, true, 0, 1));
-    refuses(x, "26 the argument is named first", ARGUMENT, () -> x.addRule(0, 0, 1, 1, true, 0, 6));
-    refuses(x, "26 the series first of all", INDEX, () -> x.addRule(9, 0, 1, 1, true, 0, 6));
+    refuses(x, "26 a ninth", STATE, z -> z.addRule(0, 0, 1, 1, true, 0, 1));
+    refuses(x, "26 the argument is named first", ARGUMENT, z -> z.addRule(0, 0, 1, 1, true, 0, 6));
+    refuses(x, "26 the series first of all", INDEX, z -> z.addRule(9, 0, 1, 1, true, 0, 6));
     for (int bad : new int[] {-1, 8, Integer.MAX_VALUE}) {
-      refuses(x, "27 rule", INDEX, () -> x.stateOf(bad));
-      refuses(x, "28 rule", INDEX, () -> x.inRow(bad));
-      refuses(x, "29 rule", INDEX, () -> x.seenBy(bad));
+      refuses(x, "27 rule", INDEX, z -> z.stateOf(bad));
+      refuses(x, "28 rule", INDEX, z -> z.inRow(bad));
+      refuses(x, "29 rule", INDEX, z -> z.seenBy(bad));
     }
   }
 
@@ -943,7 +881,7 @@ public final class PromiseTest {
 
   private static void eventsKept() {
     MeridianSeries x = storeAt(50);
-    refuses(x, "31 none yet", INDEX, () -> x.event(0, 0));
+    refuses(x, "31 none yet", INDEX, z -> z.event(0, 0));
     x.addRule(0, 0, 1, 1, true, 0, 1);
     for (int i = 0; i < 11; i++) {
       x.put(0, 50 + i * 3, 1);
@@ -955,28 +893,28 @@ public final class PromiseTest {
       is("31 rule of " + back, x.event(back, 1), 0);
       is("31 state of " + back, x.event(back, 2), back % 2 * 2);
     }
-    refuses(x, "31 back 20", INDEX, () -> x.event(20, 0));
-    refuses(x, "31 back -1", INDEX, () -> x.event(-1, 0));
-    refuses(x, "31 back is named first", INDEX, () -> x.event(20, 3));
-    refuses(x, "31 what -1", ARGUMENT, () -> x.event(0, -1));
-    refuses(x, "31 what 3", ARGUMENT, () -> x.event(0, 3));
+    refuses(x, "31 back 20", INDEX, z -> z.event(20, 0));
+    refuses(x, "31 back -1", INDEX, z -> z.event(-1, 0));
+    refuses(x, "31 back is named first", INDEX, z -> z.event(20, 3));
+    refuses(x, "31 what -1", ARGUMENT, z -> z.event(0, -1));
+    refuses(x, "31 what 3", ARGUMENT, z -> z.event(0, 3));
     MeridianSeries y = storeAt(0);
     y.addRule(0, 0, 1, 1, false, 5, 1);
     y.addRule(0, 0, 1, 1, false, 5, 1);
     is("30 two rules fire at once", y.goOn(1), 2);
     is("31 the later one by number", y.event(0, 1), 1);
     is("31 the one ahead", y.event(1, 1), 0);
-    refuses(y, "31 back as many as there were", INDEX, () -> y.event(2, 0));
+    refuses(y, "31 back as many as there were", INDEX, z -> z.event(2, 0));
   }
 
   private static void bitsWith() {
     MeridianSeries x = storeAt(100);
-    refuses(x, "32 series", INDEX, () -> x.bitsWith(1, 0, 0));
-    refuses(x, "32 the series is named first", INDEX, () -> x.bitsWith(1, -1, 0));
-    refuses(x, "32 time -1", ARGUMENT, () -> x.bitsWith(0, -1, 0));
-    refuses(x, "32 time above NOW", ARGUMENT, () -> x.bitsWith(0, 101, 0));
-    refuses(x, "32 value too small", ARGUMENT, () -> x.bitsWith(0, 0, -100001));
-    refuses(x, "32 value too great", ARGUMENT, () -> x.bitsWith(0, 0, 100001));
+    refuses(x, "32 series", INDEX, z -> z.bitsWith(1, 0, 0));
+    refuses(x, "32 the series is named first", INDEX, z -> z.bitsWith(1, -1, 0));
+    refuses(x, "32 time -1", ARGUMENT, z -> z.bitsWith(0, -1, 0));
+    refuses(x, "32 time above NOW", ARGUMENT, z -> z.bitsWith(0, 101, 0));
+    refuses(x, "32 value too small", ARGUMENT, z -> z.bitsWith(0, 0, -100001));
+    refuses(x, "32 value too great", ARGUMENT, z -> z.bitsWith(0, 0, 100001));
     is("32 alone", x.bitsWith(0, 100, 0), 47);
     x.setSpan(16);
     x.putRow(0, 10, 0, 10, 0, 3);
@@ -985,7 +923,7 @@ public final class PromiseTest {
     is("32 ahead of them", x.bitsWith(0, 5, 0), 47 + 9 + 9 + 2);
     is("32 between them", x.bitsWith(0, 15, 0), 47 + 9 + 2 + 9);
     is("32 instead of one", x.bitsWith(0, 20, 1), 47 + 8 + 7 + 1 + 7);
-    isLong("32 nothing is changed", x.digest(), before);
+    is("32 nothing is changed", x.digest(), before);
     x.setSpan(3);
     x.put(0, 30, 0);
     is("32 late", x.bitsWith(0, 30, 0), -1);
@@ -994,8 +932,8 @@ public final class PromiseTest {
 
   private static void firesIn() {
     MeridianSeries x = storeAt(10);
-    refuses(x, "33 by 0", ARGUMENT, () -> x.firesIn(0));
-    refuses(x, "33 by 101", ARGUMENT, () -> x.firesIn(101));
+    refuses(x, "33 by 0", ARGUMENT, z -> z.firesIn(0));
+    refuses(x, "33 by 101", ARGUMENT, z -> z.firesIn(101));
     is("33 without rules", x.firesIn(100), -1);
     x.put(0, 10, 8);
     x.addRule(0, 3, 60, 20, true, 7, 3);
@@ -1004,7 +942,7 @@ public final class PromiseTest {
     is("33 not up to 59", x.firesIn(49), -1);
     long before = x.digest();
     x.firesIn(100);
-    isLong("33 nothing is changed", x.digest(), before);
+    is("33 nothing is changed", x.digest(), before);
     is("33 it comes so", x.goOn(50), 1);
     is("33 firing already, and no more", x.firesIn(100), -1);
     MeridianSeries y = storeAt(40);
@@ -1070,8 +1008,8 @@ public final class PromiseTest {
 
   private static void wouldRoll() {
     MeridianSeries x = storeAt(50);
-    refuses(x, "34 keep -1", ARGUMENT, () -> x.wouldRoll(-1));
-    refuses(x, "34 keep 10001", ARGUMENT, () -> x.wouldRoll(10001));
+    refuses(x, "34 keep -1", ARGUMENT, z -> z.wouldRoll(-1));
+    refuses(x, "34 keep 10001", ARGUMENT, z -> z.wouldRoll(10001));
     is("34 nothing there", x.wouldRoll(1), 0);
     x.addSeries(0, 0);
     x.setSpan(2);
@@ -1101,14 +1039,14 @@ public final class PromiseTest {
     y.putRow(0, 5, 1, 1, 0, 2);
     y.goOn(98);
     is("10 one ahead of the last", y.now(), 99998);
-    refuses(y, "9 above 99999", ARGUMENT, () -> y.goOn(2));
-    refuses(y, "33 above 99999", ARGUMENT, () -> y.firesIn(2));
+    refuses(y, "9 above 99999", ARGUMENT, z -> z.goOn(2));
+    refuses(y, "33 above 99999", ARGUMENT, z -> z.firesIn(2));
     is("33 up to 99999", y.firesIn(1), -1);
     is("34 at 99998", y.wouldRoll(10), 1);
     is("9 up to 99999", y.goOn(1), 0);
     is("34 at 99999", y.wouldRoll(10), 0);
-    refuses(y, "34 wrong at 99999", ARGUMENT, () -> y.wouldRoll(10001));
-    refuses(y, "9 no further", ARGUMENT, () -> y.goOn(1));
+    refuses(y, "34 wrong at 99999", ARGUMENT, z -> z.wouldRoll(10001));
+    refuses(y, "9 no further", ARGUMENT, z -> z.goOn(1));
     is("25 at the last time", y.put(0, 99999, 4), 1);
     is("25 at the last time", y.lastAt(0, 99999), 99999);
   }
@@ -1123,9 +1061,9 @@ public final class PromiseTest {
 
   private static void digest() {
     MeridianSeries x = new MeridianSeries();
-    isLong("35 new", x.digest(), sumUp(0, 0, 0, 0));
+    is("35 new", x.digest(), sumUp(0, 0, 0, 0));
     x.addSeries(1, 2);
-    isLong("35 a series", x.digest(), sumUp(0, 1, 0, 0, 1, 0, 0, 0, 0, NOTHING, NOTHING, NOTHING, NOTHING, NOTHING, NOTHING));
+    is("35 a series", x.digest(), sumUp(0, 1, 0, 0, 1, 0, 0, 0, 0, NOTHING, NOTHING, NOTHING, NOTHING, NOTHING, NOTHING));
     x.goOn(100);
     x.setSpan(2);
     x.putRow(0, 3, 4, 1, 0, 2);
@@ -1144,7 +1082,7 @@ public final class PromiseTest {
         8, NOTHING, 18, NOTHING, NOTHING, NOTHING,
         2, 0, 5,
         102, 0, 2);
-    isLong("35 with all", x.digest(), due);
+    is("35 with all", x.digest(), due);
     x.setKeep(0, 1);
     x.goOn(1);
     long dueWithCoarse = sumUp(
@@ -1155,8 +1093,8 @@ public final class PromiseTest {
         8, NOTHING, 18, NOTHING, NOTHING, NOTHING,
         2, 0, 5,
         102, 0, 2);
-    isLong("35 with a coarse bucket", x.digest(), dueWithCoarse);
-    isLong("35 once more", x.digest(), dueWithCoarse);
+    is("35 with a coarse bucket", x.digest(), dueWithCoarse);
+    is("35 once more", x.digest(), dueWithCoarse);
     stirredRule();
     latestFive();
   }
@@ -1168,7 +1106,7 @@ public final class PromiseTest {
     x.goOn(3);
     long none = NOTHING;
     long due = sumUp(12, 1, 0, 0, 1, 1, 0, 9, 4, 0, 0, 4, none, none, none, none, none, 1, 3, 4);
-    isLong("35 a rule with 3 times in a row", x.digest(), due);
+    is("35 a rule with 3 times in a row", x.digest(), due);
   }
 
   private static void latestFive() {
@@ -1183,6 +1121,6 @@ public final class PromiseTest {
         1, 0, 0, 0, 0, none, none, none, none, none, none,
         2, 0, 0, 2, 0, 0, 2, 0, 0, 2, 0, 0, 2, 0, 0, 2, 0, 0,
         1, 5, 2, 1, 4, 2, 1, 3, 2, 1, 2, 2, 1, 1, 2);
-    isLong("35 the latest 5 events alone", x.digest(), due);
+    is("35 the latest 5 events alone", x.digest(), due);
   }
 }
