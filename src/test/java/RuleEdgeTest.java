@@ -33,6 +33,8 @@ public final class RuleEdgeTest extends Check {
     firesInEdge();
     firesInTheFirst();
     firesInAgain();
+    firesInByPoints();
+    firesInByBuckets();
     firesInChangesNothing();
     firesInAsItComes();
     goOnByMany();
@@ -464,6 +466,53 @@ public final class RuleEdgeTest extends Check {
     is("33 STIRRED at 18, FIRING at 19", x.firesIn(100), 2);
     x.goOn(1);
     is("33 from STIRRED", x.firesIn(100), 1);
+  }
+
+  /** What is told of the four points is what the rules of a trial are told. */
+  private static void firesInByPoints() {
+    checkEachTold("points", () -> storeOfFour());
+  }
+
+  /** So it is when they are in a fine bucket, or in a coarse one. */
+  private static void firesInByBuckets() {
+    checkEachTold("a fine bucket", () -> storeOfFourIn(false));
+    checkEachTold("a coarse bucket", () -> storeOfFourIn(true));
+  }
+
+  private static MeridianSeries storeOfFour() {
+    MeridianSeries x = storeAt(100);
+    x.setSpan(4);
+    x.setWidths(10, 3);
+    int[] values = {7, 50, -9, 12};
+    for (int i = 0; i < 4; i++) {
+      x.put(0, 60 + i, values[i]);
+    }
+    return x;
+  }
+
+  private static MeridianSeries storeOfFourIn(boolean isCoarse) {
+    MeridianSeries x = storeOfFour();
+    x.setKeep(1, isCoarse ? 1 : 0);
+    x.goOn(1);
+    is("18 they are in a bucket", x.buckets(0, isCoarse), 1);
+    return x;
+  }
+
+  private static void checkEachTold(String what, Making making) {
+    int[] due = {4, 60, -9, 50, 7, 12, 15, 59};
+    for (int told = 0; told < 8; told++) {
+      String name = "33 " + what + ", told " + told;
+      is(name + ", above one less", firesInOne(making, told, true, due[told] - 1), 1);
+      is(name + ", above it", firesInOne(making, told, true, due[told]), -1);
+      is(name + ", below one more", firesInOne(making, told, false, due[told] + 1), 1);
+      is(name + ", below it", firesInOne(making, told, false, due[told]), -1);
+    }
+  }
+
+  private static int firesInOne(Making making, int what, boolean isAbove, int limit) {
+    MeridianSeries x = making.store();
+    x.addRule(0, what, 60, 1, isAbove, limit, 1);
+    return x.firesIn(1);
   }
 
   /** "(nothing is changed)": NOW, blocks, buckets, states, events. */

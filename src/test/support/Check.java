@@ -52,8 +52,14 @@ class Check {
     try {
       return String.valueOf(use.on(x));
     } catch (RuntimeException e) {
-      return "throws " + e.getClass().getSimpleName();
+      return (isThrownByProgram(e) ? "throws " : "throws by itself ") + e.getClass().getSimpleName();
     }
+  }
+
+  /** A list of the library throws by the same names; the program must throw by a statement of its own. */
+  private static boolean isThrownByProgram(RuntimeException e) {
+    StackTraceElement[] trace = e.getStackTrace();
+    return trace.length > 0 && trace[0].getClassName().startsWith("MeridianSeries");
   }
 
   /** The call must be answered, whatever the answer is. */
