@@ -12,16 +12,27 @@ import java.util.TreeSet;
 public final class FaceTest {
   private static final Path SOURCE = Path.of("src/main/java/MeridianSeries.java");
 
+  private static final String INDEX = " throws IndexOutOfBoundsException";
+  private static final String ARGUMENT = " throws IllegalArgumentException";
+  private static final String INDEX_ARGUMENT = INDEX + ",IllegalArgumentException";
+  private static final String ARGUMENT_STATE = ARGUMENT + ",IllegalStateException";
+
   private static final String[] FACE = {
-    "int addRule(int,int,int,int,boolean,int,int)", "int addSeries(int,int)", "int ask(int,int)",
-    "int bits(int,int)", "int bitsWith(int,int,int)", "int blocks(int)", "int buckets(int,boolean)",
-    "long digest()", "int event(int,int)", "int events()", "int firesIn(int)", "int gaps(int,int)",
-    "int goOn(int)", "int inRow(int)", "int items(int)", "int lastAt(int,int)", "int late()",
-    "int now()", "int ofBucket(int,boolean,int,int)", "int over(boolean,int,int,int)",
-    "int point(int,int,int,boolean)", "int put(int,int,int)", "int putRow(int,int,int,int,int,int)",
-    "double ratio()", "int seenBy(int)", "int series()", "int setKeep(int,int)",
-    "int setQuery(int,int,int,int)", "int setSpan(int)", "int setWidths(int,int)", "int size(int,int)",
-    "int stateOf(int)", "int word(int,int,int)", "int wouldRoll(int)"
+    "int addRule(int,int,int,int,boolean,int,int)" + INDEX_ARGUMENT + ",IllegalStateException",
+    "int addSeries(int,int)" + ARGUMENT_STATE, "int ask(int,int)" + INDEX_ARGUMENT,
+    "int bits(int,int)" + INDEX, "int bitsWith(int,int,int)" + INDEX_ARGUMENT,
+    "int blocks(int)" + INDEX, "int buckets(int,boolean)" + INDEX, "long digest()",
+    "int event(int,int)" + INDEX_ARGUMENT, "int events()", "int firesIn(int)" + ARGUMENT,
+    "int gaps(int,int)" + INDEX_ARGUMENT, "int goOn(int)" + ARGUMENT, "int inRow(int)" + INDEX,
+    "int items(int)" + INDEX, "int lastAt(int,int)" + INDEX_ARGUMENT, "int late()", "int now()",
+    "int ofBucket(int,boolean,int,int)" + INDEX_ARGUMENT,
+    "int over(boolean,int,int,int)" + ARGUMENT, "int point(int,int,int,boolean)" + INDEX,
+    "int put(int,int,int)" + INDEX_ARGUMENT,
+    "int putRow(int,int,int,int,int,int)" + INDEX_ARGUMENT, "double ratio()",
+    "int seenBy(int)" + INDEX, "int series()", "int setKeep(int,int)" + ARGUMENT,
+    "int setQuery(int,int,int,int)" + ARGUMENT, "int setSpan(int)" + ARGUMENT,
+    "int setWidths(int,int)" + ARGUMENT_STATE, "int size(int,int)" + INDEX,
+    "int stateOf(int)" + INDEX, "int word(int,int,int)" + INDEX, "int wouldRoll(int)" + ARGUMENT
   };
 
   private static final String[] NOT_ALLOWED = {
@@ -49,11 +60,18 @@ public final class FaceTest {
   }
 
   private static String textOf(Method method) {
+    String called = method.getName() + "(" + namesOf(method.getParameterTypes()) + ")";
+    String thrown = namesOf(method.getExceptionTypes());
+    String face = method.getReturnType().getSimpleName() + " " + called;
+    return thrown.isEmpty() ? face : face + " throws " + thrown;
+  }
+
+  private static String namesOf(Class<?>[] types) {
     StringBuilder text = new StringBuilder();
-    for (Class<?> type : method.getParameterTypes()) {
+    for (Class<?> type : types) {
       text.append(text.length() == 0 ? "" : ",").append(type.getSimpleName());
     }
-    return method.getReturnType().getSimpleName() + " " + method.getName() + "(" + text + ")";
+    return text.toString();
   }
 
   private static void face() {
